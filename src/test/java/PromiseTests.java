@@ -539,8 +539,11 @@ public final class PromiseTests {
         due("month 239", 0, x.bill(0, 239));
         x.end(0, 121);
         due("one day", 16, x.bill(0, 4));
+        x.let(2, 0, 1, 29);
+        due("one day, rounded down", 0, x.bill(1, 0));
+        due("by days", 0, x.billByDays(1, 0));
         noPlace("lease -1", () -> x.bill(-1, 4));
-        noPlace("lease 1", () -> x.bill(1, 4));
+        noPlace("lease 2", () -> x.bill(2, 4));
         noPlace("month -1", () -> x.bill(0, -1));
         noPlace("month 240", () -> x.bill(0, 240));
         noPlace("least month", () -> x.bill(0, LEAST));
@@ -664,6 +667,14 @@ public final class PromiseTests {
         x.setIndex(100, 200);
         x.step(0, 3000, 50);
         due("a step that a review makes up for", Voidrent.NONE, x.nextChange(0, 0));
+        x.let(1, 10, 20, 100);
+        x.step(1, 15, 200);
+        x.step(1, 16, 100);
+        due("up", 15, x.nextChange(1, 10));
+        due("down again on the next day", 16, x.nextChange(1, 15));
+        x.let(2, 10, 11, 100);
+        due("one day", 10, x.nextChange(2, 0));
+        due("behind the one day", 11, x.nextChange(2, 10));
     }
 
     private static void promise20Voids() {
@@ -792,6 +803,8 @@ public final class PromiseTests {
     private static void promise24Share() {
         Voidrent x = new Voidrent();
         due("no areas", 0.0, x.share(0));
+        x.setArea(5, 1);
+        due("the least area", 1.0, x.share(5));
         x.setArea(5, 999);
         due("all of it", 1.0, x.share(5));
         due("nothing of it", 0.0, x.share(0));
