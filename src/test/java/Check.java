@@ -8,10 +8,16 @@ final class Check {
     static final Class<?> ARGUMENT = IllegalArgumentException.class;
     static final Class<?> STATE = IllegalStateException.class;
 
+    private static String subject = "";
     private static int held = 0;
     private static int wrong = 0;
 
     private Check() {
+    }
+
+    /** What is checked from here on is about this. */
+    static void about(String what) {
+        subject = what.isEmpty() ? "" : what + "\n    ";
     }
 
     static void due(String what, Object want, Object got) {
@@ -19,12 +25,16 @@ final class Check {
             held++;
         } else {
             wrong++;
-            System.out.println(what + ": answered " + got + ", due is " + want);
+            System.out.println(subject + what + ": answered " + got + ", due is " + want);
         }
     }
 
     static void throwing(String what, Class<?> want, Call call) {
-        due(what, "throws " + want.getName(), answer(call));
+        due(what, thrown(want), answer(call));
+    }
+
+    static String thrown(Class<?> exception) {
+        return "throws " + exception.getName();
     }
 
     /** The class's own name, so that a subclass which the machine throws is told apart. */
@@ -32,8 +42,12 @@ final class Check {
         try {
             return call.run();
         } catch (RuntimeException thrown) {
-            return "throws " + thrown.getClass().getName();
+            return thrown(thrown.getClass());
         }
+    }
+
+    static int held() {
+        return held;
     }
 
     static void close(String test) {

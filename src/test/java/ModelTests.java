@@ -1,6 +1,9 @@
 import java.util.Random;
 
-/** Runs of random calls, the same ones each time, which Voidrent and the model answer alike. */
+/**
+ * Runs of random calls, the same ones each time, which Voidrent and the model answer alike. No object
+ * has more than the 512 calls that the document promises.
+ */
 public final class ModelTests {
     private static final int RUNS = 400;
     private static final int CALLS = 512;
@@ -15,6 +18,7 @@ public final class ModelTests {
     private final Model model = new Model();
     /** One in how many arguments is taken from anywhere. */
     private final int strange;
+    private int calls = 0;
     private int[] starts = new int[0];
     private int[] ends = new int[0];
 
@@ -26,7 +30,9 @@ public final class ModelTests {
     public static void main(String[] args) {
         for (int seed = 1; seed <= RUNS; seed++) {
             ModelTests run = new ModelTests(seed);
-            for (int call = 1; call <= CALLS; call++) {
+            // Every other run is asked for all that there is room for at its end.
+            int told = seed % 2 == 0 ? CALLS : CALLS / 2;
+            for (int call = 1; call <= told; call++) {
                 run.one("run " + seed + ", call " + call + ": ", call);
             }
             run.everything("run " + seed + ", at its end: ");
@@ -42,8 +48,7 @@ public final class ModelTests {
         for (int value : a) {
             text.append(' ').append(value);
         }
-        Object want = Check.answer(() -> modelled(kind, a));
-        Check.due(text.toString(), want, Check.answer(() -> answered(kind, a)));
+        Object want = compare(text.toString(), kind, a);
         if (kind == 3 && want instanceof Integer) {
             starts = java.util.Arrays.copyOf(starts, starts.length + 1);
             ends = java.util.Arrays.copyOf(ends, ends.length + 1);
@@ -53,28 +58,37 @@ public final class ModelTests {
     }
 
     private void everything(String where) {
-        for (int unit = 0; unit < 6; unit++) {
-            compare(where, 22, unit);
-            for (int year = 0; year < 20; year++) {
-                compare(where, 18, unit, year);
-            }
+        for (int turn = 0; turn < starts.length; turn++) {
+            everythingOf(where, (turn + starts[0]) % starts.length);
         }
         for (int year = 0; year < 20; year++) {
-            compare(where, 20, year);
-        }
-        for (int lease = 0; lease < starts.length; lease++) {
-            compare(where, 10, lease);
-            for (int month = starts[lease] / 30; month <= ends[lease] / 30 && month < 240; month += 7) {
-                compare(where, 14, lease, month);
-                compare(where, 15, lease, month);
+            ask(where, 20, year);
+            for (int unit = 0; unit < 6; unit++) {
+                ask(where, 18, unit, year);
             }
-            compare(where, 17, lease, random.nextInt(7200));
         }
     }
 
-    private void compare(String where, int kind, int... a) {
-        Check.due(where + NAMES[kind] + " " + java.util.Arrays.toString(a),
-                Check.answer(() -> modelled(kind, a)), Check.answer(() -> answered(kind, a)));
+    private void everythingOf(String where, int lease) {
+        ask(where, 10, lease);
+        for (int month = starts[lease] / 30; month <= ends[lease] / 30 && month < 240; month += 7) {
+            ask(where, 14, lease, month);
+            ask(where, 15, lease, month);
+        }
+        ask(where, 17, lease, random.nextInt(7200));
+    }
+
+    private void ask(String where, int kind, int... a) {
+        if (calls < CALLS) {
+            compare(where + NAMES[kind] + " " + java.util.Arrays.toString(a), kind, a);
+        }
+    }
+
+    private Object compare(String what, int kind, int... a) {
+        calls++;
+        Object want = Check.answer(() -> modelled(kind, a));
+        Check.due(what, want, Check.answer(() -> answered(kind, a)));
+        return want;
     }
 
     private int[] arguments(int kind) {

@@ -1,0 +1,18 @@
+import java.io.IOException;
+
+/** A test for each sentence of the document's terms and promises, named after it. */
+public final class BoundaryTests {
+    public static void main(String[] args) throws IOException {
+        TermsSentences.test();
+        ReckoningSentences.test();
+        UnitSentences.test();
+        LetSentences.test();
+        AgreedSentences.test();
+        DepositSentences.test();
+        RentSentences.test();
+        BillSentences.test();
+        ServiceSentences.test();
+        Sentence.allTested();
+        Check.close("BoundaryTests");
+    }
+}
