@@ -179,8 +179,10 @@ final class BillSentences {
                 (x, month) -> x.bills(0, month, 239));
         Scene.SOME.refusesEach("bills(0, %d, itself)", Check.PLACE, Scene.NO_MONTH,
                 (x, month) -> x.bills(0, month, month));
-        Scene.SOME.refusesEach("bills(0, %d, 0)", Check.PLACE, Scene.NO_MONTH, (x, month) -> x.bills(0, month, 0));
-        Scene.SOME.refusesEach("bills(0, 0, %d)", Check.PLACE, Scene.NO_MONTH, (x, month) -> x.bills(0, 0, month));
+        Scene.SOME.refusesEach("bills(0, %d, 0)", Check.PLACE, Scene.NO_MONTH,
+                (x, month) -> x.bills(0, month, 0));
+        Scene.SOME.refusesEach("bills(0, 0, %d)", Check.PLACE, Scene.NO_MONTH,
+                (x, month) -> x.bills(0, 0, month));
         Scene.SOME.refusesEach("bills(0, 239, %d)", Check.PLACE, Scene.NO_MONTH,
                 (x, month) -> x.bills(0, 239, month));
         Scene.SOME.refuses("bills(0, MIN, MAX)", Check.PLACE, x -> x.bills(0, LEAST, MOST));

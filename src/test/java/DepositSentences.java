@@ -6,7 +6,7 @@ final class DepositSentences {
     private static final int[] NO_AMOUNT = {0, -1, 1000000, LEAST, MOST};
 
     /** Days 100 to 199 of unit 1, for 50, of which the first five are free; 100 are held. */
-    private static final Scene ONE = new Scene(1, x -> {
+    private static final Scene ONE = new Scene(new int[] {100}, x -> {
         x.let(1, 100, 200, 50);
         x.setTerms(0, 5, 0);
         x.topUp(0, 105, 2);
@@ -140,11 +140,14 @@ final class DepositSentences {
     private static void topsUpNoneOfItsDays() {
         int[] none = {99, 0, -1, 200, 201, 7199, 7200, LEAST, MOST};
         ONE.refusesEach("topUp(0, %d, 6)", Check.ARGUMENT, none, (x, day) -> x.topUp(0, day, 6));
-        ONE.refusesEach("topUp(0, 150, %d)", Check.ARGUMENT, NO_RENTS, (x, rents) -> x.topUp(0, 150, rents));
+        ONE.refusesEach("topUp(0, 150, %d)", Check.ARGUMENT, NO_RENTS,
+                (x, rents) -> x.topUp(0, 150, rents));
         ONE.refusesEach("topUp(0, 100, %d) on a free day", Check.ARGUMENT, NO_RENTS,
                 (x, rents) -> x.topUp(0, 100, rents));
-        Scene.SOME.refuses("another lease's day: topUp(0, 200, 6)", Check.ARGUMENT, x -> x.topUp(0, 200, 6));
-        Scene.SOME.refuses("another lease's day: topUp(1, 199, 6)", Check.ARGUMENT, x -> x.topUp(1, 199, 6));
+        Scene.SOME.refuses("another lease's day: topUp(0, 200, 6)", Check.ARGUMENT,
+                x -> x.topUp(0, 200, 6));
+        Scene.SOME.refuses("another lease's day: topUp(1, 199, 6)", Check.ARGUMENT,
+                x -> x.topUp(1, 199, 6));
     }
 
     private static void drawsMoney() {
@@ -203,23 +206,24 @@ final class DepositSentences {
 
     private static void drawsOutOfRange() {
         ONE.refusesEach("draw(0, %d)", Check.ARGUMENT, NO_AMOUNT, (x, amount) -> x.draw(0, amount));
-        Scene nothing = new Scene(1, x -> x.let(1, 100, 200, 50));
+        Scene nothing = new Scene(new int[] {100}, x -> x.let(1, 100, 200, 50));
         nothing.refusesEach("nothing is held: draw(0, %d)", Check.ARGUMENT, NO_AMOUNT,
                 (x, amount) -> x.draw(0, amount));
-        Scene much = new Scene(1, x -> {
+        Scene much = new Scene(new int[] {0}, x -> {
             x.setIndex(0, 10);
             x.let(0, 0, 7200, 99999);
             x.setTerms(0, 0, 30);
             x.topUp(0, 30, 6);
         });
-        much.refusesEach("much is held: draw(0, %d)", Check.ARGUMENT, NO_AMOUNT, (x, amount) -> x.draw(0, amount));
+        much.refusesEach("much is held: draw(0, %d)", Check.ARGUMENT, NO_AMOUNT,
+                (x, amount) -> x.draw(0, amount));
     }
 
     private static void lessIsHeld() {
         ONE.refusesEach("100 are held: draw(0, %d)", Check.STATE, new int[] {101, 102, 999999},
                 (x, amount) -> x.draw(0, amount));
         due("just what is held", 0, ONE.make().draw(0, 100));
-        Scene nothing = new Scene(2, x -> {
+        Scene nothing = new Scene(new int[] {100, 100}, x -> {
             x.let(1, 100, 200, 50);
             x.let(2, 100, 200, 50);
             x.topUp(0, 100, 1);

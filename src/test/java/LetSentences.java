@@ -6,10 +6,10 @@ final class LetSentences {
     private static final int[] NO_RENT = {0, -1, 100000, LEAST, MOST};
 
     /** Days 100 to 199 of unit 1, for 50. */
-    private static final Scene ONE = new Scene(1, x -> x.let(1, 100, 200, 50));
+    private static final Scene ONE = new Scene(new int[] {100}, x -> x.let(1, 100, 200, 50));
 
     /** The same with all six steps, on days 110, 120 and so on, for 61, 62 and so on. */
-    private static final Scene SIX_STEPS = new Scene(1, x -> {
+    private static final Scene SIX_STEPS = new Scene(new int[] {100}, x -> {
         x.let(1, 100, 200, 50);
         for (int step = 1; step <= 6; step++) {
             x.step(0, 100 + 10 * step, 60 + step);
@@ -48,7 +48,8 @@ final class LetSentences {
         Sentence.of(7, "Sets a step of a lease; one that was told for the same day is no more.",
                 LetSentences::stepsOfOneDay);
         Sentence.of(7, "`lease`: its number", LetSentences::stepsOfLeasesByNumber);
-        Sentence.of(7, "`day`: later than its first day, and one of its days", LetSentences::daysOfSteps);
+        Sentence.of(7, "`day`: later than its first day, and one of its days",
+                LetSentences::daysOfSteps);
         Sentence.of(7, "`rent`: 1 to 99999", LetSentences::rentsOfSteps);
         Sentence.of(7, "Returns how many steps it has then.", LetSentences::returnsHowManySteps);
         Sentence.of(7, "Throws `IndexOutOfBoundsException` if there is no such lease",
@@ -143,21 +144,25 @@ final class LetSentences {
     }
 
     private static void letsNoSuchUnit() {
-        Scene.EMPTY.refusesEach("let(%d, 0, 1, 7)", Check.PLACE, Scene.NO_UNIT, (x, unit) -> x.let(unit, 0, 1, 7));
+        Scene.EMPTY.refusesEach("let(%d, 0, 1, 7)", Check.PLACE, Scene.NO_UNIT,
+                (x, unit) -> x.let(unit, 0, 1, 7));
         ONE.refusesEach("let(%d, 100, 200, 7)", Check.PLACE, Scene.NO_UNIT,
                 (x, unit) -> x.let(unit, 100, 200, 7));
-        Scene.FULL.refusesEach("let(%d, 0, 1, 7)", Check.PLACE, Scene.NO_UNIT, (x, unit) -> x.let(unit, 0, 1, 7));
+        Scene.FULL.refusesEach("let(%d, 0, 1, 7)", Check.PLACE, Scene.NO_UNIT,
+                (x, unit) -> x.let(unit, 0, 1, 7));
     }
 
     private static void letsOutOfRange() {
         int[] noFrom = {-1, 7200, 7201, LEAST, MOST};
-        ONE.refusesEach("let(0, %d, 7200, 7)", Check.ARGUMENT, noFrom, (x, from) -> x.let(0, from, 7200, 7));
+        ONE.refusesEach("let(0, %d, 7200, 7)", Check.ARGUMENT, noFrom,
+                (x, from) -> x.let(0, from, 7200, 7));
         ONE.refusesEach("let(0, %d, 1, 7)", Check.ARGUMENT, noFrom, (x, from) -> x.let(0, from, 1, 7));
         ONE.refusesEach("let(0, %d, the day behind, 7)", Check.ARGUMENT, noFrom,
                 (x, from) -> x.let(0, from, from + 1, 7));
         int[] noTo = {0, -1, 49, 50, 7201, LEAST, MOST};
         ONE.refusesEach("let(0, 50, %d, 7)", Check.ARGUMENT, noTo, (x, to) -> x.let(0, 50, to, 7));
-        ONE.refusesEach("let(0, 50, 60, %d)", Check.ARGUMENT, NO_RENT, (x, rent) -> x.let(0, 50, 60, rent));
+        ONE.refusesEach("let(0, 50, 60, %d)", Check.ARGUMENT, NO_RENT,
+                (x, rent) -> x.let(0, 50, 60, rent));
         Scene.EMPTY.refusesEach("let(0, 0, 7200, %d)", Check.ARGUMENT, NO_RENT,
                 (x, rent) -> x.let(0, 0, 7200, rent));
     }
@@ -168,7 +173,11 @@ final class LetSentences {
             int u = unit;
             Scene.FULL.refuses("a 25th in " + u, Check.STATE, x -> x.let(u, 1000, 1001, 7));
         }
-        Scene ended = new Scene(24, x -> {
+        int[] firstDays = new int[24];
+        for (int lease = 0; lease < 24; lease++) {
+            firstDays[lease] = 2 * lease;
+        }
+        Scene ended = new Scene(firstDays, x -> {
             for (int lease = 0; lease < 24; lease++) {
                 x.let(0, 2 * lease, 2 * lease + 2, 7);
                 x.end(lease, 2 * lease + 1);
@@ -277,7 +286,7 @@ final class LetSentences {
         int[] none = {200, 201, 7200, 7201, 100, 99, 0, -1, LEAST, MOST};
         ONE.refusesEach("end(0, %d)", Check.ARGUMENT, none, (x, to) -> x.end(0, to));
         SIX_STEPS.refusesEach("end(0, %d)", Check.ARGUMENT, none, (x, to) -> x.end(0, to));
-        Scene oneDay = new Scene(1, x -> x.let(4, 7199, 7200, 5));
+        Scene oneDay = new Scene(new int[] {7199}, x -> x.let(4, 7199, 7200, 5));
         oneDay.refusesEach("a lease of one day: end(0, %d)", Check.ARGUMENT,
                 new int[] {7198, 7199, 7200, 7201, LEAST, MOST}, (x, to) -> x.end(0, to));
     }
@@ -366,10 +375,11 @@ final class LetSentences {
         int[] none = {100, 99, 0, -1, 200, 201, 7199, 7200, LEAST, MOST};
         ONE.refusesEach("step(0, %d, 60)", Check.ARGUMENT, none, (x, day) -> x.step(0, day, 60));
         ONE.refusesEach("step(0, 150, %d)", Check.ARGUMENT, NO_RENT, (x, rent) -> x.step(0, 150, rent));
-        SIX_STEPS.refusesEach("six steps: step(0, %d, 60)", Check.ARGUMENT, none, (x, day) -> x.step(0, day, 60));
+        SIX_STEPS.refusesEach("six steps: step(0, %d, 60)", Check.ARGUMENT, none,
+                (x, day) -> x.step(0, day, 60));
         SIX_STEPS.refusesEach("six steps: step(0, 110, %d)", Check.ARGUMENT, NO_RENT,
                 (x, rent) -> x.step(0, 110, rent));
-        Scene oneDay = new Scene(1, x -> x.let(1, 100, 101, 50));
+        Scene oneDay = new Scene(new int[] {100}, x -> x.let(1, 100, 101, 50));
         oneDay.refusesEach("a lease of one day: step(0, %d, 60)", Check.ARGUMENT,
                 new int[] {99, 100, 101}, (x, day) -> x.step(0, day, 60));
     }

@@ -8,7 +8,8 @@ final class Questions {
     private final List<String> words = new ArrayList<>();
     private final List<Scene.Act> acts = new ArrayList<>();
 
-    Questions(int leases) {
+    /** Of an object with leases that have these first days. */
+    Questions(int[] firstDays) {
         ask("leases()", Voidrent::leases);
         for (int unit = 0; unit < 6; unit++) {
             askOfUnit(unit);
@@ -17,12 +18,15 @@ final class Questions {
             int y = year;
             ask("owners(" + y + ")", x -> x.owners(y));
         }
-        for (int lease = 0; lease < leases; lease++) {
+        for (int lease = 0; lease < firstDays.length; lease++) {
             askOfDays(lease);
             askOfMonths(lease);
             askOfYears(lease);
         }
         askByTelling();
+        for (int lease = 0; lease < firstDays.length; lease++) {
+            askByTelling(lease, firstDays[lease]);
+        }
     }
 
     int count() {
@@ -106,5 +110,11 @@ final class Questions {
             ask("setArea(" + u + ", 0)", x -> x.setArea(u, 0));
         }
         ask("let(5, 600, 601, 1)", x -> x.let(5, 600, 601, 1));
+    }
+
+    /** How many steps a lease has, and where it ends. */
+    private void askByTelling(int lease, int firstDay) {
+        ask("step(" + lease + ", " + (firstDay + 1) + ", 1)", x -> x.step(lease, firstDay + 1, 1));
+        ask("end(" + lease + ", " + (firstDay + 1) + ")", x -> x.end(lease, firstDay + 1));
     }
 }

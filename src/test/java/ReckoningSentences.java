@@ -8,7 +8,8 @@ final class ReckoningSentences {
     static void test() {
         of("A lease has an agreed rent for a month, which steps can change: from the day of a step on its"
                 + " rent is the agreed one.", ReckoningSentences::stepsChangeTheAgreedRent);
-        of("The first days of a lease, as many as told, are free.", ReckoningSentences::firstDaysAreFree);
+        of("The first days of a lease, as many as told, are free.",
+                ReckoningSentences::firstDaysAreFree);
         of("The index of each month is 100 at first.", ReckoningSentences::indexIs100AtFirst);
         of("If a lease is reviewed after a number of days each, its review days are its first day and that"
                 + " number of days, together, its first day and twice that number, and so on.",
@@ -25,7 +26,8 @@ final class ReckoningSentences {
                 + " in that year, divided by the sum of the areas of all units, and by 360, rounded down"
                 + " once; but if it has a cap, at most the cap times these days, divided by 360, rounded"
                 + " down.", ReckoningSentences::partAtMostTheCap);
-        of("The owner's part is the cost less the parts of all leases.", ReckoningSentences::costLessAllParts);
+        of("The owner's part is the cost less the parts of all leases.",
+                ReckoningSentences::costLessAllParts);
         of("What is prepaid is the amount for a month, times the days of the lease in the year, divided by"
                 + " 30, rounded down.", ReckoningSentences::prepaidByDays);
     }
@@ -166,6 +168,12 @@ final class ReckoningSentences {
         x.setIndex(6, 999);
         due("a review of the day that is asked counts: 3 * 999 / 150", 19, x.rentOn(0, 180));
         due("one of a later day doesn't", 3, x.rentOn(0, 179));
+        Voidrent y = new Voidrent();
+        y.setIndex(0, 21);
+        y.setIndex(1, 91);
+        y.let(0, 0, 200, 51);
+        y.setTerms(0, 0, 30);
+        due("51 * 91 / 21, a whole number", 221, y.rentOn(0, 30));
     }
 
     private static void sumOfRentsBy30() {
@@ -224,28 +232,39 @@ final class ReckoningSentences {
         roundedDownOnce();
     }
 
-    /** Where rounding in between, or the range of int, would answer otherwise. */
+    /** Where rounding in between, doubles, or the range of int would answer otherwise. */
     private static void roundedDownOnce() {
+        part(1079, 1, 3, 359, 358);
+        part(240, 6, 7, 7, 4);
+        part(50, 22, 30, 216, 22);
+        part(34, 25, 30, 216, 17);
+        part(124, 18, 30, 300, 62);
+        part(2, 998, 999, 360, 1);
+        part(999999, 999, 999, 360, 999999);
+        part(999999, 998, 999, 359, 996223);
+        capped(999999, 360, 999999);
+        capped(999999, 359, 997221);
+        capped(1476, 230, 943);
+        capped(1476, 229, 938);
+    }
+
+    /** Of one unit with the area, beside another one that has the rest of all areas. */
+    private static void part(int cost, int area, int all, int days, int part) {
+        Voidrent x = new Voidrent();
+        x.setArea(0, area);
+        x.setArea(1, all - area);
+        x.setCost(0, cost);
+        x.let(0, 360 - days, 720, 100);
+        due(cost + " * " + area + " * " + days + " / (" + all + " * 360)", part, x.part(0, 0));
+    }
+
+    private static void capped(int cap, int days, int part) {
         Voidrent x = new Voidrent();
         x.setArea(0, 1);
-        x.setArea(1, 2);
-        x.setCost(0, 1079);
-        x.let(0, 0, 359, 100);
-        due("1079 * 1 * 359 / (3 * 360)", 358, x.part(0, 0));
-        x.setCost(0, 2);
-        x.setArea(0, 998);
-        x.setArea(1, 1);
-        x.let(0, 360, 720, 100);
-        x.setCost(1, 2);
-        due("2 * 998 / 999", 1, x.part(1, 1));
-        x.setArea(0, 999);
-        x.setArea(1, 0);
-        x.setCost(1, 999999);
-        due("more than an int holds in between", 999999, x.part(1, 1));
-        x.setService(1, 999999, 0);
-        due("the greatest cap", 999999, x.part(1, 1));
-        x.end(1, 719);
-        due("the greatest cap, less a day", 997221, x.part(1, 1));
+        x.setCost(0, 999999);
+        x.let(0, 0, days, 100);
+        x.setService(0, cap, 0);
+        due("a cap: " + cap + " * " + days + " / 360", part, x.part(0, 0));
     }
 
     private static void costLessAllParts() {
@@ -285,6 +304,10 @@ final class ReckoningSentences {
             x.setService(0, NONE, 0);
             due("nothing for " + days + " days", 0, x.balance(0, 0));
         }
+        Voidrent x = new Voidrent();
+        x.let(0, 0, 246, 100);
+        x.setService(0, NONE, 245);
+        due("245 * 246 / 30, a whole number", -2009, x.balance(0, 0));
         Voidrent y = new Voidrent();
         y.let(0, 0, 720, 100);
         y.setTerms(0, 360, 0);

@@ -3,7 +3,7 @@ final class RentSentences {
     private static final int NONE = Voidrent.NONE;
 
     /** Days 100 to 199 of unit 1, for 50. */
-    private static final Scene ONE = new Scene(1, x -> x.let(1, 100, 200, 50));
+    private static final Scene ONE = new Scene(new int[] {100}, x -> x.let(1, 100, 200, 50));
 
     private RentSentences() {
     }
@@ -114,9 +114,12 @@ final class RentSentences {
 
     private static void leaseOnNoSuchUnitOrDay() {
         for (Scene scene : new Scene[] {Scene.EMPTY, Scene.SOME, Scene.FULL}) {
-            scene.refusesEach("leaseOn(%d, 100)", Check.PLACE, Scene.NO_UNIT, (x, unit) -> x.leaseOn(unit, 100));
-            scene.refusesEach("leaseOn(0, %d)", Check.PLACE, Scene.NO_DAY, (x, day) -> x.leaseOn(0, day));
-            scene.refusesEach("leaseOn(5, %d)", Check.PLACE, Scene.NO_DAY, (x, day) -> x.leaseOn(5, day));
+            scene.refusesEach("leaseOn(%d, 100)", Check.PLACE, Scene.NO_UNIT,
+                    (x, unit) -> x.leaseOn(unit, 100));
+            scene.refusesEach("leaseOn(0, %d)", Check.PLACE, Scene.NO_DAY,
+                    (x, day) -> x.leaseOn(0, day));
+            scene.refusesEach("leaseOn(5, %d)", Check.PLACE, Scene.NO_DAY,
+                    (x, day) -> x.leaseOn(5, day));
             scene.refuses("leaseOn(6, 7200)", Check.PLACE, x -> x.leaseOn(6, 7200));
         }
     }
@@ -176,9 +179,11 @@ final class RentSentences {
         Scene.refuseNoLease("rentOn(%d, 7200)", (x, lease) -> x.rentOn(lease, 7200));
         for (int lease = 0; lease < 3; lease++) {
             int l = lease;
-            Scene.SOME.refusesEach("rentOn(" + l + ", %d)", Check.PLACE, Scene.NO_DAY, (x, day) -> x.rentOn(l, day));
+            Scene.SOME.refusesEach("rentOn(" + l + ", %d)", Check.PLACE, Scene.NO_DAY,
+                    (x, day) -> x.rentOn(l, day));
         }
-        Scene.FULL.refusesEach("rentOn(23, %d)", Check.PLACE, Scene.NO_DAY, (x, day) -> x.rentOn(23, day));
+        Scene.FULL.refusesEach("rentOn(23, %d)", Check.PLACE, Scene.NO_DAY,
+                (x, day) -> x.rentOn(23, day));
     }
 
     private static void nextDayWithAnotherRent() {

@@ -26,21 +26,22 @@ final class Scene {
     /** No object is asked for more than its 512 calls: what a scene tells, an act, and these. */
     private static final int QUESTIONS_OF_ONE = 400;
 
-    static final Scene EMPTY = new Scene(0, x -> { });
+    static final Scene EMPTY = new Scene(new int[0], x -> { });
 
     /** Three leases of two units: 0 with all that can be told, 1 right behind it, 2 to the last day. */
-    static final Scene SOME = new Scene(3, Scene::tellSome);
+    static final Scene SOME = new Scene(new int[] {10, 200, 7100}, Scene::tellSome);
 
     /** All 24 leases: i of unit i % 6, from day 10 * i on, ten days each; the last has all 6 steps. */
-    static final Scene FULL = new Scene(24, Scene::tellFull);
+    static final Scene FULL = new Scene(firstDaysOfFull(), Scene::tellFull);
 
-    private final int leases;
+    private final int[] firstDays;
     private final Making making;
     private Questions questions = null;
     private List<Object> answers = null;
 
-    Scene(int leases, Making making) {
-        this.leases = leases;
+    /** The first days of its leases, from lease 0 on, and the calls that make it. */
+    Scene(int[] firstDays, Making making) {
+        this.firstDays = firstDays;
         this.making = making;
     }
 
@@ -65,13 +66,22 @@ final class Scene {
         x.topUp(0, 60, 2);
     }
 
+    private static int[] firstDaysOfFull() {
+        int[] days = new int[24];
+        for (int lease = 0; lease < 24; lease++) {
+            days[lease] = 10 * lease;
+        }
+        return days;
+    }
+
     private static void tellFull(Voidrent x) {
         for (int unit = 0; unit < 6; unit++) {
             x.setArea(unit, 10 + unit);
         }
         x.setCost(0, 100000);
+        int[] firstDays = firstDaysOfFull();
         for (int lease = 0; lease < 24; lease++) {
-            x.let(lease % 6, 10 * lease, 10 * lease + 10, 100 + lease);
+            x.let(lease % 6, firstDays[lease], firstDays[lease] + 10, 100 + lease);
         }
         for (int step = 1; step <= 6; step++) {
             x.step(23, 230 + step, 200 + step);
@@ -113,7 +123,7 @@ final class Scene {
 
     private void changesNothing(String what, Act act) {
         if (answers == null) {
-            questions = new Questions(leases);
+            questions = new Questions(firstDays);
             answers = answersBehind(x -> "nothing");
         }
         List<Object> now = answersBehind(act);

@@ -6,14 +6,16 @@ final class ServiceSentences {
     }
 
     static void test() {
-        Sentence.of(20, "Returns how many days of a year a unit is not let.", ServiceSentences::daysNotLet);
+        Sentence.of(20, "Returns how many days of a year a unit is not let.",
+                ServiceSentences::daysNotLet);
         Sentence.of(20, "`unit`: 0 to 5", ServiceSentences::voidsOfUnits0To5);
         Sentence.of(20, "`year`: 0 to 19", ServiceSentences::voidsOfYears0To19);
         Sentence.of(20, "Returns 0 to 360.", ServiceSentences::returns0To360);
         Sentence.of(20, "Throws `IndexOutOfBoundsException` if there is no such unit or year",
                 ServiceSentences::voidsOfNoSuchUnitOrYear);
 
-        Sentence.of(21, "Returns the part of a lease in the cost of a year.", ServiceSentences::partInTheCost);
+        Sentence.of(21, "Returns the part of a lease in the cost of a year.",
+                ServiceSentences::partInTheCost);
         Sentence.of(21, "`lease`: its number", ServiceSentences::partOfLeasesByNumber);
         Sentence.of(21, "`year`: 0 to 19", ServiceSentences::partInYears0To19);
         Sentence.of(21, "Returns the part; 0 if no unit has an area.", ServiceSentences::partOrNothing);
@@ -38,7 +40,8 @@ final class ServiceSentences {
         Sentence.of(24, "Returns the share of a unit in all areas: its area, as a double, divided by the"
                 + " sum of all.", ServiceSentences::shareInAllAreas);
         Sentence.of(24, "`unit`: 0 to 5", ServiceSentences::shareOfUnits0To5);
-        Sentence.of(24, "Returns the share; 0.0 if no unit has an area.", ServiceSentences::shareOrNothing);
+        Sentence.of(24, "Returns the share; 0.0 if no unit has an area.",
+                ServiceSentences::shareOrNothing);
         Sentence.of(24, "Throws `IndexOutOfBoundsException` if there is no such unit",
                 ServiceSentences::shareOfNoSuchUnit);
     }
@@ -178,9 +181,10 @@ final class ServiceSentences {
         Scene.refuseNoLease("part(%d, 20)", (x, lease) -> x.part(lease, 20));
         for (int lease = 0; lease < 3; lease++) {
             int l = lease;
-            Scene.SOME.refusesEach("part(" + l + ", %d)", Check.PLACE, Scene.NO_YEAR, (x, year) -> x.part(l, year));
+            Scene.SOME.refusesEach("part(" + l + ", %d)", Check.PLACE, Scene.NO_YEAR,
+                    (x, year) -> x.part(l, year));
         }
-        Scene noArea = new Scene(1, x -> x.let(0, 0, 360, 100));
+        Scene noArea = new Scene(new int[] {0}, x -> x.let(0, 0, 360, 100));
         noArea.refusesEach("no unit has an area: part(0, %d)", Check.PLACE, Scene.NO_YEAR,
                 (x, year) -> x.part(0, year));
     }

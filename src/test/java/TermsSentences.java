@@ -296,9 +296,12 @@ final class TermsSentences {
         Scene.SOME.refuses("end: lease, to", Check.PLACE, x -> x.end(3, -1));
         Scene.SOME.refuses("step: lease, day", Check.PLACE, x -> x.step(3, -1, 7));
         Scene.SOME.refuses("step: lease, rent", Check.PLACE, x -> x.step(3, 11, 0));
-        Scene.SOME.refuses("setTerms: lease, free", Check.PLACE, x -> AgreedSentences.terms(x, 3, 721, 30));
-        Scene.SOME.refuses("setTerms: lease, every", Check.PLACE, x -> AgreedSentences.terms(x, 3, 5, 29));
-        Scene.SOME.refuses("setService: lease, cap", Check.PLACE, x -> AgreedSentences.service(x, 3, -2, 5));
+        Scene.SOME.refuses("setTerms: lease, free", Check.PLACE,
+                x -> AgreedSentences.terms(x, 3, 721, 30));
+        Scene.SOME.refuses("setTerms: lease, every", Check.PLACE,
+                x -> AgreedSentences.terms(x, 3, 5, 29));
+        Scene.SOME.refuses("setService: lease, cap", Check.PLACE,
+                x -> AgreedSentences.service(x, 3, -2, 5));
         Scene.SOME.refuses("setService: lease, prepaid", Check.PLACE,
                 x -> AgreedSentences.service(x, 3, 5, 10000));
         Scene.SOME.refuses("topUp: lease, day", Check.PLACE, x -> x.topUp(3, -1, 6));

@@ -116,17 +116,23 @@ final class UnitSentences {
     }
 
     private static void areaOfNoSuchUnit() {
-        Scene.EMPTY.refusesEach("setArea(%d, 0)", Check.PLACE, Scene.NO_UNIT, (x, unit) -> x.setArea(unit, 0));
-        Scene.SOME.refusesEach("setArea(%d, 5)", Check.PLACE, Scene.NO_UNIT, (x, unit) -> x.setArea(unit, 5));
-        Scene.SOME.refusesEach("setArea(%d, -1)", Check.PLACE, Scene.NO_UNIT, (x, unit) -> x.setArea(unit, -1));
+        Scene.EMPTY.refusesEach("setArea(%d, 0)", Check.PLACE, Scene.NO_UNIT,
+                (x, unit) -> x.setArea(unit, 0));
+        Scene.SOME.refusesEach("setArea(%d, 5)", Check.PLACE, Scene.NO_UNIT,
+                (x, unit) -> x.setArea(unit, 5));
+        Scene.SOME.refusesEach("setArea(%d, -1)", Check.PLACE, Scene.NO_UNIT,
+                (x, unit) -> x.setArea(unit, -1));
         Scene.SOME.refusesEach("setArea(%d, 1000)", Check.PLACE, Scene.NO_UNIT,
                 (x, unit) -> x.setArea(unit, 1000));
     }
 
     private static void areaOutOfRange() {
-        Scene.EMPTY.refusesEach("setArea(0, %d)", Check.ARGUMENT, NO_AREA, (x, area) -> x.setArea(0, area));
-        Scene.SOME.refusesEach("setArea(0, %d)", Check.ARGUMENT, NO_AREA, (x, area) -> x.setArea(0, area));
-        Scene.SOME.refusesEach("setArea(5, %d)", Check.ARGUMENT, NO_AREA, (x, area) -> x.setArea(5, area));
+        Scene.EMPTY.refusesEach("setArea(0, %d)", Check.ARGUMENT, NO_AREA,
+                (x, area) -> x.setArea(0, area));
+        Scene.SOME.refusesEach("setArea(0, %d)", Check.ARGUMENT, NO_AREA,
+                (x, area) -> x.setArea(0, area));
+        Scene.SOME.refusesEach("setArea(5, %d)", Check.ARGUMENT, NO_AREA,
+                (x, area) -> x.setArea(5, area));
     }
 
     private static void setsTheIndex() {
@@ -194,8 +200,10 @@ final class UnitSentences {
     }
 
     private static void indexOutOfRange() {
-        Scene.EMPTY.refusesEach("setIndex(0, %d)", Check.ARGUMENT, NO_INDEX, (x, index) -> x.setIndex(0, index));
-        Scene.SOME.refusesEach("setIndex(0, %d)", Check.ARGUMENT, NO_INDEX, (x, index) -> x.setIndex(0, index));
+        Scene.EMPTY.refusesEach("setIndex(0, %d)", Check.ARGUMENT, NO_INDEX,
+                (x, index) -> x.setIndex(0, index));
+        Scene.SOME.refusesEach("setIndex(0, %d)", Check.ARGUMENT, NO_INDEX,
+                (x, index) -> x.setIndex(0, index));
         Scene.SOME.refusesEach("setIndex(239, %d)", Check.ARGUMENT, NO_INDEX,
                 (x, index) -> x.setIndex(239, index));
     }
@@ -250,16 +258,22 @@ final class UnitSentences {
     }
 
     private static void costOfNoSuchYear() {
-        Scene.EMPTY.refusesEach("setCost(%d, 0)", Check.PLACE, Scene.NO_YEAR, (x, year) -> x.setCost(year, 0));
-        Scene.SOME.refusesEach("setCost(%d, 5)", Check.PLACE, Scene.NO_YEAR, (x, year) -> x.setCost(year, 5));
-        Scene.SOME.refusesEach("setCost(%d, -1)", Check.PLACE, Scene.NO_YEAR, (x, year) -> x.setCost(year, -1));
+        Scene.EMPTY.refusesEach("setCost(%d, 0)", Check.PLACE, Scene.NO_YEAR,
+                (x, year) -> x.setCost(year, 0));
+        Scene.SOME.refusesEach("setCost(%d, 5)", Check.PLACE, Scene.NO_YEAR,
+                (x, year) -> x.setCost(year, 5));
+        Scene.SOME.refusesEach("setCost(%d, -1)", Check.PLACE, Scene.NO_YEAR,
+                (x, year) -> x.setCost(year, -1));
         Scene.SOME.refusesEach("setCost(%d, 1000000)", Check.PLACE, Scene.NO_YEAR,
                 (x, year) -> x.setCost(year, 1000000));
     }
 
     private static void costOutOfRange() {
-        Scene.EMPTY.refusesEach("setCost(0, %d)", Check.ARGUMENT, NO_COST, (x, cost) -> x.setCost(0, cost));
-        Scene.SOME.refusesEach("setCost(0, %d)", Check.ARGUMENT, NO_COST, (x, cost) -> x.setCost(0, cost));
-        Scene.SOME.refusesEach("setCost(19, %d)", Check.ARGUMENT, NO_COST, (x, cost) -> x.setCost(19, cost));
+        Scene.EMPTY.refusesEach("setCost(0, %d)", Check.ARGUMENT, NO_COST,
+                (x, cost) -> x.setCost(0, cost));
+        Scene.SOME.refusesEach("setCost(0, %d)", Check.ARGUMENT, NO_COST,
+                (x, cost) -> x.setCost(0, cost));
+        Scene.SOME.refusesEach("setCost(19, %d)", Check.ARGUMENT, NO_COST,
+                (x, cost) -> x.setCost(19, cost));
     }
 }
