@@ -3,6 +3,8 @@ import java.nio.file.Files;
 import java.nio.file.Path;
 import java.util.LinkedHashSet;
 import java.util.Set;
+import java.util.regex.Matcher;
+import java.util.regex.Pattern;
 
 /** The document's sentences, and which of them have had a test of their own. */
 final class Sentence {
@@ -12,6 +14,8 @@ final class Sentence {
 
     private static final Path DOCUMENT = Path.of("..", "shared", "DOC.md");
     private static final Set<String> PROMISING = Set.of("What it is", "Terms");
+    private static final String FACE = "The public face";
+    private static final Pattern CALL = Pattern.compile("^(`[^`]*`): ");
     private static final Set<String> TESTED = new LinkedHashSet<>();
 
     private Sentence() {
@@ -51,6 +55,8 @@ final class Sentence {
         for (String line : Files.readAllLines(DOCUMENT)) {
             if (line.startsWith("## ")) {
                 section = line.substring(3).replaceFirst("^(Promise \\d+):.*", "$1");
+            } else if (section.equals(FACE)) {
+                readFace(line.strip(), sentences);
             } else if (PROMISING.contains(section) || section.startsWith("Promise ")) {
                 read(section, line, sentences);
             }
@@ -58,17 +64,28 @@ final class Sentence {
         return sentences;
     }
 
+    /** Each line of the program text there, but for its last bracket. */
+    private static void readFace(String line, Set<String> sentences) {
+        if (!line.isEmpty() && !line.startsWith("```") && !line.equals("}")) {
+            sentences.add(FACE + ": " + line);
+        }
+    }
+
     /** A row of an argument, of what is returned or thrown, or a paragraph of some sentences. */
     private static void read(String section, String line, Set<String> sentences) {
-        if (line.isEmpty() || line.startsWith("Ahead of the calls")) {
+        if (line.isEmpty()) {
             return;
         }
         if (line.startsWith("- ")) {
             sentences.add(section + ": " + line.substring(2));
             return;
         }
-        // Behind the face of the call, and behind a title as 'Rent.', the sentences begin.
-        String words = line.replaceFirst("^`[^`]*`: ", "").replaceFirst("^(Rent|Service)\\. ", "");
+        // Behind the line of the call, and behind a title as 'Rent.', the sentences begin.
+        Matcher call = CALL.matcher(line);
+        if (call.lookingAt()) {
+            sentences.add(section + ": " + call.group(1));
+        }
+        String words = call.replaceFirst("").replaceFirst("^(Rent|Service)\\. ", "");
         for (String sentence : words.split("(?<=\\.) (?=[A-Z])")) {
             sentences.add(section + ": " + sentence);
         }
