@@ -82,7 +82,8 @@ public final class ReadmeTests {
             Process run = shell.directory(folder.toFile()).redirectErrorStream(true).start();
             run.getOutputStream().close();
             String text = new String(run.getInputStream().readAllBytes(), StandardCharsets.UTF_8);
-            Check.due("exit code of the commands", 0, run.waitFor());
+            int code = run.waitFor();
+            Check.due("how the commands end", "with 0", code == 0 ? "with 0" : "with " + code + ": " + text);
             return text.lines().toList();
         } finally {
             remove(folder);
